@@ -1,0 +1,72 @@
+import com.sun.management.ThreadMXBean;
+import java.lang.management.ManagementFactory;
+
+/** Only the constructor makes objects: the calls of a run together have room for few. */
+public final class RoomTest {
+    private static final Due DUE = new Due("RoomTest");
+
+    public static void main(String[] args) {
+        ThreadMXBean threads = (ThreadMXBean) ManagementFactory.getThreadMXBean();
+        StripDepths x = new StripDepths();
+        // Once ahead, as the first call of each loads what it needs.
+        callAll(x);
+        long before = threads.getThreadAllocatedBytes(Thread.currentThread().getId());
+        for (int i = 0; i < 12; i++) {
+            callAll(x);
+        }
+        long made = threads.getThreadAllocatedBytes(Thread.currentThread().getId()) - before;
+        DUE.holds("at most 2000 bytes are made, not " + made, made <= 2000);
+        DUE.end();
+    }
+
+    private static void callAll(StripDepths x) {
+        x.lay(0, 16, 3, 31, 2);
+        x.shift(1, 3);
+        x.swap(0, 1);
+        x.turn(2);
+        x.print(0);
+        x.paint(0, 5, 5);
+        x.wipe(1);
+        x.set(StripDepths.PERIOD, 9);
+        x.lot(7);
+        x.append('5');
+        x.wind();
+        x.unwind();
+        drawOne(x);
+        x.clear();
+        x.printAll();
+        x.save();
+        x.restore();
+        x.undo();
+        lookAtAll(x);
+    }
+
+    private static void drawOne(StripDepths x) {
+        x.append('5');
+        x.append(',');
+        x.append('7');
+        x.append(':');
+        x.append('1');
+        x.fault(0);
+        x.draw();
+    }
+
+    private static void lookAtAll(StripDepths x) {
+        x.at(0, 9, 6);
+        x.fits(0, 9, 2);
+        x.row(0, 8);
+        x.echo(0, 4);
+        x.echoAt(0, 4);
+        x.faulty(4);
+        x.plane(2, 1);
+        x.pictures();
+        x.count(6);
+        x.away(3);
+        x.clearness(0);
+        x.ifPainted(0, 9, 1, 2);
+        x.ifPrinted(0, 7);
+        x.shortest(0);
+        x.bestWindow(0);
+        x.alike(0, 1);
+    }
+}
