@@ -122,12 +122,15 @@ public final class DotsTest {
         x.paint(0, 0, 7);
         x.paint(0, 0, 6);
         x.paint(0, 31, 5);
-        x.paint(1, 4, 3);
+        x.paint(1, 0, 3);
+        x.paint(7, 31, 1);
         DUE.is("wipe(0)", x.wipe(0), 2);
         DUE.holds("the dots are back", Sheets.dots(x, 0).equals("01234567012345672345672345672345"));
         DUE.holds("no smudges", Sheets.remembered(x, 0).equals(".".repeat(32)));
-        DUE.is("another row stays", x.at(1, 4, 1), 3);
+        DUE.is("another row stays", x.at(1, 0, 1), 3);
         DUE.is("wipe again", x.wipe(0), 0);
+        DUE.is("wipe(7)", x.wipe(7), 1);
+        DUE.is("smudges left", x.count(8), 1);
         DUE.is("wipe(-1)", x.wipe(-1), StripDepths.INVALID_ARGUMENT);
         DUE.is("wipe(8)", x.wipe(8), StripDepths.INVALID_ARGUMENT);
     }

@@ -74,6 +74,9 @@ public final class LooksTest {
         seenBeginsWith(".......14", 2, 7, 2, 2, 4, 5, 6, 2, 4);
         // 7 fits none, and they keep 2; 8 fits 1 and 3, as far away: the greater one.
         seenBeginsWith("......2.3", 1, 0, 2, 0, 5, 6, 1, 4, 0);
+        // 5 is like 2 alone, and 9 like 0 alone: there is no plane for 3 columns, nor for 9.
+        seenBeginsWith("....4.", 1, 2, 3, 4, 1, 3);
+        seenBeginsWith("..........", 1, 2, 3, 4, 5, 6, 7, 0, 0, 1);
     }
 
     private static void seenBeginsWith(String want, int... dots) {
@@ -95,6 +98,7 @@ public final class LooksTest {
         DUE.is("fits(0, 17, 2)", x.fits(0, 17, 2), 1);
         DUE.is("fits(0, 31, 2)", x.fits(0, 31, 2), 1);
         DUE.is("fits(0, 17, 1)", x.fits(0, 17, 1), 0);
+        DUE.is("fits(1, 17, 1)", x.fits(1, 17, 1), 1);
         x.set(StripDepths.CROSSED, 1);
         DUE.is("the same with CROSSED", x.fits(0, 31, 2), 1);
         int[][] wrong = {{-1, 0, 0}, {8, 0, 0}, {0, -1, 0}, {0, 32, 0}, {0, 0, -1}, {0, 0, 5}};

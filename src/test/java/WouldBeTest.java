@@ -82,35 +82,30 @@ public final class WouldBeTest {
         }
     }
 
-    private static void shortest() {
-        StripDepths x = Sheets.counting();
-        DUE.is("shortest(0)", x.shortest(0), 6);
-        DUE.is("shortest(-1)", x.shortest(-1), INVALID);
-        DUE.is("shortest(8)", x.shortest(8), INVALID);
-        StripDepths y = new StripDepths();
-        y.lay(2, 0, 2, 31, 2);
-        y.set(StripDepths.COLORS, 8);
-        for (int lot = 0; lot < 10000; lot += 271) {
-            y.lot(lot);
-            int best = 6;
-            for (int period = 7; period <= 16; period++) {
-                best = y.ifPrinted(2, period) > y.ifPrinted(2, best) ? period : best;
-            }
-            DUE.is("shortest(2) with the lot " + lot, y.shortest(2), best);
-        }
-        DUE.is("the PERIOD stays", y.count(13), 8);
-        StripDepths z = Sheets.counting();
-        // Free are the first places alone: plane 4 in the columns 0 to 7 needs 10 to be loose of them.
-        z.lay(0, 0, 0, 31, 4);
-        DUE.is("all of plane 4", z.shortest(0), bestOf(z));
+    private static StripDepths wound(String strip) {
+        StripDepths x = new StripDepths();
+        Sheets.wind(x, strip);
+        return x;
     }
 
-    private static int bestOf(StripDepths x) {
-        int best = 6;
-        for (int period = 7; period <= 16; period++) {
-            best = x.ifPrinted(0, period) > x.ifPrinted(0, best) ? period : best;
-        }
-        return best;
+    private static void shortest() {
+        // Less of the row is a first period, which is blurred.
+        DUE.is("all dots different", Sheets.counting().shortest(0), 6);
+        // All dots are alike: plane 4 is seen, and none is seen right.
+        DUE.is("of several the least", wound("0").shortest(0), 6);
+        // With even periods the row comes again after 2, and plane 4 is seen; with odd ones plane 0 is.
+        DUE.is("01", wound("01").shortest(0), 7);
+        // Below 16 all dots are alike; with 16 plane 0 is seen from 16 on.
+        StripDepths x = wound("0000000000000001");
+        DUE.is("the greatest", x.shortest(0), 16);
+        DUE.is("ifPrinted(0, 16)", x.ifPrinted(0, 16), 16);
+        DUE.is("ifPrinted(0, 15)", x.ifPrinted(0, 15), 0);
+        DUE.is("the PERIOD stays", x.count(13), 8);
+        DUE.is("the dots stay", x.row(0, 9), 1);
+        DUE.is("shortest(-1)", x.shortest(-1), INVALID);
+        DUE.is("shortest(8)", x.shortest(8), INVALID);
+        x.lay(0, 0, 0, 31, 4);
+        DUE.is("with plane 4 the least period", x.shortest(0), 6);
     }
 
     private static void bestWindow() {
@@ -120,22 +115,18 @@ public final class WouldBeTest {
         DUE.is("the WINDOW stays", x.count(15), 1);
         DUE.is("bestWindow(-1)", x.bestWindow(-1), INVALID);
         DUE.is("bestWindow(8)", x.bestWindow(8), INVALID);
-        StripDepths y = new StripDepths();
-        // With WINDOW 0 planes are seen by chance; a greater one sees 0 where the strip comes again.
-        Sheets.wind(y, "0011010");
-        y.set(StripDepths.PERIOD, 7);
+        // From 7 to 11 plane 1 has the same dots too: it is seen until the window reaches 12.
+        StripDepths y = wound("00000120");
         y.print(0);
-        int best = 0;
-        int most = -1;
-        for (int window = 0; window <= 3; window++) {
+        int[] right = {0, 0, 22, 23};
+        for (int window = 2; window <= 3; window++) {
             y.set(StripDepths.WINDOW, window);
-            if (y.row(0, 4) > most) {
-                most = y.row(0, 4);
-                best = window;
-            }
+            DUE.is("seen right with WINDOW " + window, y.row(0, 4), right[window]);
         }
-        DUE.is("bestWindow by hand", y.bestWindow(0), best);
-        DUE.holds("not 0", best > 0);
+        y.set(StripDepths.WINDOW, 0);
+        DUE.is("bestWindow(1)", y.bestWindow(1), 0);
+        DUE.is("bestWindow(0) of plane 1 seen", y.bestWindow(0), 3);
+        DUE.is("the WINDOW stays 0", y.count(15), 0);
     }
 
     private static void alike() {
