@@ -20,8 +20,8 @@ public final class HistoryTest {
             // Neither the pad nor the history.
             all.append(' ').append(what == 11 || what == 12 ? 0 : x.count(what));
         }
-        StripDepths y = x;
-        return all.append(' ').append(y.ifPrinted(0, 7)).toString();
+        // The dots of the strip show where it prints.
+        return all.append(' ').append(x.ifPrinted(0, 7)).toString();
     }
 
     private static void undo() {
