@@ -113,7 +113,7 @@ public final class StripDepths {
         look.takeRow(now, row);
         look.turnRound();
         look.putRow(now, row);
-        return placesOfKind(row, RIGHT);
+        return rightPlaces(row);
     }
 
     // ---- dots
@@ -396,7 +396,7 @@ public final class StripDepths {
         if (!isRow(row)) {
             return INVALID_ARGUMENT;
         }
-        return (double) placesOfKind(row, RIGHT) / COLUMNS;
+        return (double) rightPlaces(row) / COLUMNS;
     }
 
     // ---- what would be; nothing is changed
@@ -530,15 +530,16 @@ public final class StripDepths {
         return look.placesOfKind(RIGHT);
     }
 
-    private int placesOfKind(int row, int kind) {
+    private int rightPlaces(int row) {
         look.study(now, row);
-        return look.placesOfKind(kind);
+        return look.placesOfKind(RIGHT);
     }
 
     private int allPlacesOfKind(int kind) {
         int number = 0;
         for (int row = 0; row < ROWS; row++) {
-            number += placesOfKind(row, kind);
+            look.study(now, row);
+            number += look.placesOfKind(kind);
         }
         return number;
     }

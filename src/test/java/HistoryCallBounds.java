@@ -12,6 +12,7 @@ final class HistoryCallBounds {
 
     void hold() {
         undoLatest();
+        undoOfEach();
         undoAnswer();
         saveAll();
         saveAnswer();
@@ -31,6 +32,19 @@ final class HistoryCallBounds {
         run = run.anew().does("printAll()").is("undo()", 0).is("count(9)", 1).dots(7, "0".repeat(32)).dots(0, "0".repeat(32));
         run.does("set(5, 400)", "set(0, 16)").is("undo()", 1).is("count(13)", 8).is("count(18)", 400).is("undo()", 0);
         run.is("count(18)", 120);
+    }
+
+    private void undoOfEach() {
+        Run run = document.run("Promise 34", "Undoes the latest change").winds(EIGHT);
+        run.does("lay(0, 16, 0, 31, 2)", "paint(0, 2, 7)", "save()");
+        String[] changes = {"lay(0, 3, 7, 20, 1)", "shift(0, 5)", "swap(0, 4)", "turn(0)", "print(3)", "printAll()",
+            "paint(0, 9, 6)", "wipe(0)", "set(5, 11)", "lot(5)", "unwind()", "restore()"};
+        for (String change : changes) {
+            run.takesBack(change, "undo()");
+        }
+        // 48, 44, 48, 58 and 52 are 0,0:4 and 54 is 6: the pad is empty again, as it was.
+        run.takesBack("append(48)", "append(44)", "append(48)", "append(58)", "append(52)", "draw()", "undo()");
+        run.takesBack("append(54)", "wind()", "undo()");
     }
 
     private void undoAnswer() {

@@ -124,6 +124,8 @@ final class LookCallBounds {
         run = run.anew().winds("0123456").does("print(0)").is("row(0, 9)", 7).winds("01234567").does("print(0)");
         run.is("row(0, 9)", 8).does("paint(0, 7, 0)", "paint(0, 15, 0)", "paint(0, 23, 0)").is("row(0, 9)", 8);
         run.does("paint(0, 31, 0)").is("row(0, 9)", 7);
+        // A row without 0, and a dot that is at the column 0 alone.
+        run = run.anew().winds("7").does("print(0)").is("row(0, 9)", 1).does("paint(0, 0, 0)").is("row(0, 9)", 2);
     }
 
     private void rowOfEyes() {
@@ -153,7 +155,8 @@ final class LookCallBounds {
 
     private void echoArguments() {
         Run run = document.run("Promise 21", "row: 0 to 7").filled().outside("echo(?, 8)", 0, 7);
-        run.leaves("echo(4, 8)", 24).leaves("echo(6, 8)", 24).leaves("echo(7, 8)", 24);
+        // Row 0 without its smudge has 8, from 8 to 15; row 1 has its smudge behind them.
+        run.leaves("echo(0, 8)", 7).leaves("echo(1, 8)", 8).leaves("echo(6, 8)", 24).leaves("echo(7, 8)", 24);
         run = document.run("Promise 21", "reach: 2 to 24").filled().outside("echo(4, ?)", 2, 24);
         run.leaves("echo(4, 2)", 0).leaves("echo(4, 3)", 0).leaves("echo(4, 23)", 0).leaves("echo(4, 24)", 8);
         run = document.run("Promise 21", "Returns the echo of the reach").is("echo(0, 2)", 30).is("echo(0, 24)", 8);
@@ -163,7 +166,7 @@ final class LookCallBounds {
 
     private void echoAtArguments() {
         Run run = document.run("Promise 22", "row: 0 to 7").filled().outside("echoAt(?, 0)", 0, 7);
-        run.leaves("echoAt(4, 0)", 8).leaves("echoAt(6, 0)", 8).leaves("echoAt(7, 0)", 8);
+        run.leaves("echoAt(0, 0)", 6).leaves("echoAt(1, 0)", 6).leaves("echoAt(6, 0)", 8).leaves("echoAt(7, 0)", 8);
         run = document.run("Promise 22", "place: 0 to 22").filled().outside("echoAt(4, ?)", 0, 22);
         run.leaves("echoAt(4, 0)", 8).leaves("echoAt(4, 1)", 16).leaves("echoAt(4, 21)", 22).leaves("echoAt(4, 22)", 23);
         run = document.run("Promise 22", "Returns the reach; INVALID_ARGUMENT");
@@ -277,7 +280,9 @@ final class LookCallBounds {
 
     private void clearness() {
         Run run = document.run("Promise 28", "row: 0 to 7").filled().outside("clearness(?)", 0, 7);
-        run.leaves("clearness(2)", 0.75).leaves("clearness(6)", 0.75).leaves("clearness(7)", 0.75);
+        // Rows 0 and 1 have 24 places too, but for one that is blurred.
+        run.leaves("clearness(0)", 0.71875).leaves("clearness(1)", 0.71875).leaves("clearness(6)", 0.75);
+        run.leaves("clearness(7)", 0.75);
         run = document.run("Promise 28", "-1 if row is out of range").is("clearness(0)", 0).does("set(0, 6)");
         run.does("lay(0, 31, 0, 31, 4)").is("clearness(0)", 0.03125).does("lay(0, 0, 0, 31, 4)").is("clearness(0)", 0.9375);
         run.does("lay(7, 30, 7, 31, 4)").is("clearness(7)", 0.0625).is("clearness(8)", -1).is("clearness(-1)", -1);

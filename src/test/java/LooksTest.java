@@ -19,7 +19,6 @@ public final class LooksTest {
         count();
         away();
         clearness();
-        nothingIsChanged();
         DUE.end();
     }
 
@@ -286,30 +285,5 @@ public final class LooksTest {
         DUE.is("clearness(1)", x.clearness(1), 0.0);
         DUE.is("clearness(-1)", x.clearness(-1), -1.0);
         DUE.is("clearness(8)", x.clearness(8), -1.0);
-    }
-
-    private static void nothingIsChanged() {
-        StripDepths x = Sheets.step();
-        x.paint(0, 5, 1);
-        String before = told(x);
-        x.count(7);
-        x.pictures();
-        x.faulty(3);
-        x.plane(0, 1);
-        x.echoAt(0, 3);
-        x.away(2);
-        x.clearness(0);
-        DUE.holds("looks change nothing", told(x).equals(before));
-    }
-
-    private static String told(StripDepths x) {
-        StringBuilder all = new StringBuilder();
-        for (int row = 0; row < 8; row++) {
-            all.append(Sheets.planes(x, row)).append(Sheets.dots(x, row)).append(Sheets.remembered(x, row));
-        }
-        for (int what = 9; what <= 18; what++) {
-            all.append(' ').append(x.count(what));
-        }
-        return all.toString();
     }
 }

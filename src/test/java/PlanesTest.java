@@ -13,12 +13,13 @@ public final class PlanesTest {
     }
 
     private static void newObject() {
-        StripDepths x = new StripDepths();
         for (int row = 0; row < 8; row++) {
+            StripDepths x = new StripDepths();
             DUE.holds("planes are 0", Sheets.planes(x, row).equals("0".repeat(32)));
             DUE.holds("dots are 0", Sheets.dots(x, row).equals("0".repeat(32)));
             DUE.holds("no smudges", Sheets.remembered(x, row).equals(".".repeat(32)));
         }
+        StripDepths x = new StripDepths();
         int[] first = {8, 4, 1, 0, 60, 120};
         for (int what = 0; what < 6; what++) {
             DUE.is("count of the setting " + what, x.count(13 + what), first[what]);

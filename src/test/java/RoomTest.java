@@ -11,7 +11,7 @@ public final class RoomTest {
         // Once ahead, as the first call of each loads what it needs.
         callAll(x);
         long before = threads.getThreadAllocatedBytes(Thread.currentThread().getId());
-        for (int i = 0; i < 12; i++) {
+        for (int i = 0; i < 9; i++) {
             callAll(x);
         }
         long made = threads.getThreadAllocatedBytes(Thread.currentThread().getId()) - before;

@@ -72,11 +72,23 @@ final class Run {
     Run leaves(String text, double want) {
         Call call = new Call(text);
         due.is(sentence + ": " + call, answerOf(call), want);
+        return isAsBefore(text);
+    }
+
+    /** Calls that change something, and take it back. */
+    Run takesBack(String... texts) {
+        for (Call call : Call.all(texts)) {
+            due.holds(sentence + ": " + call + " is no error", answerOf(call) >= 0);
+        }
+        return isAsBefore(String.join(" and ", texts));
+    }
+
+    private Run isAsBefore(String behind) {
         if (toldBehind != changing.size()) {
             told = Tell.of(changing);
             toldBehind = changing.size();
         }
-        due.holds(sentence + ": all is as it was behind " + call, Tell.of(calls).equals(told));
+        due.holds(sentence + ": all is as it was behind " + behind, Tell.of(calls).equals(told));
         return this;
     }
 
