@@ -1,22 +1,38 @@
 import com.sun.management.ThreadMXBean;
 import java.lang.management.ManagementFactory;
 
-/** Only the constructor makes objects: the calls of a run together have room for few. */
+/** Only the constructor makes objects, and few: the calls of a run together have one room. */
 public final class RoomTest {
     private static final Due DUE = new Due("RoomTest");
+    private static final ThreadMXBean THREADS = (ThreadMXBean) ManagementFactory.getThreadMXBean();
+    private static final StripDepths[] KEPT = new StripDepths[100];
 
     public static void main(String[] args) {
-        ThreadMXBean threads = (ThreadMXBean) ManagementFactory.getThreadMXBean();
+        calls();
+        newObjects();
+        DUE.end();
+    }
+
+    private static void calls() {
         StripDepths x = new StripDepths();
         // Once ahead, as the first call of each loads what it needs.
         callAll(x);
-        long before = threads.getThreadAllocatedBytes(Thread.currentThread().getId());
+        long before = THREADS.getCurrentThreadAllocatedBytes();
         for (int i = 0; i < 9; i++) {
             callAll(x);
         }
-        long made = threads.getThreadAllocatedBytes(Thread.currentThread().getId()) - before;
+        long made = THREADS.getCurrentThreadAllocatedBytes() - before;
         DUE.holds("at most 2000 bytes are made, not " + made, made <= 2000);
-        DUE.end();
+    }
+
+    /** A thousand new objects are to fit the room of 7.3 million fields and elements, of 4 bytes each. */
+    private static void newObjects() {
+        long before = THREADS.getCurrentThreadAllocatedBytes();
+        for (int i = 0; i < KEPT.length; i++) {
+            KEPT[i] = new StripDepths();
+        }
+        long made = (THREADS.getCurrentThreadAllocatedBytes() - before) / KEPT.length;
+        DUE.holds("a new object has at most 29200 bytes, not " + made, made <= 29200);
     }
 
     private static void callAll(StripDepths x) {
